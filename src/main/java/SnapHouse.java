@@ -715,7 +715,10 @@ public final class SnapHouse {
                 int outPlace = given.count;
                 readHeader(text);
                 if (fault == 0) {
-                    openBody(text, blockOpener);
+                    checkChunk(text);
+                }
+                if (fault == 0 && tellsBytes()) {
+                    openBytes(text, blockOpener);
                 }
                 if (fault == 0) {
                     keepChunk(outPlace);
@@ -741,42 +744,46 @@ public final class SnapHouse {
             }
         }
 
-        private void openBody(Bytes text, BlockOpener blockOpener) {
+        private boolean tellsBytes() {
+            return type == PRESSED_TYPE || type == PLAIN_TYPE;
+        }
+
+        private void checkChunk(Bytes text) {
             if (type == NAME_TYPE) {
-                checkName(text);
-            } else if (type == PRESSED_TYPE || type == PLAIN_TYPE) {
-                openBytes(text, blockOpener);
+                if (!isName(text)) {
+                    fail(NAME_FAULT);
+                }
+            } else if (tellsBytes()) {
+                if (size < SUM_BYTES) {
+                    fail(SHORT_FAULT);
+                }
             } else if (type < FIRST_SKIPPED_TYPE) {
                 fail(TYPE_FAULT);
             }
         }
 
-        private void checkName(Bytes text) {
+        private boolean isName(Bytes text) {
             boolean same = size == NAME_BYTES;
             int i = body;
             for (int b : NAME) {
                 same = same && text.at(i) == b;
                 i++;
             }
-            if (!same) {
-                fail(NAME_FAULT);
-            }
+            return same;
         }
 
         private void openBytes(Bytes text, BlockOpener blockOpener) {
             int from = body + SUM_BYTES;
             int n = size - SUM_BYTES;
-            if (n < 0) {
-                fail(SHORT_FAULT);
-            } else if (type == PLAIN_TYPE) {
+            if (type == PLAIN_TYPE) {
                 give(text, text, from, n);
+                return;
+            }
+            blockOpener.openBlock(text, from, n);
+            if (blockOpener.fault != 0) {
+                fail(BLOCK_FAULT);
             } else {
-                blockOpener.openBlock(text, from, n);
-                if (blockOpener.fault != 0) {
-                    fail(BLOCK_FAULT);
-                } else {
-                    give(text, blockOpener.given, 0, blockOpener.given.count);
-                }
+                give(text, blockOpener.given, 0, blockOpener.given.count);
             }
         }
 
