@@ -53,6 +53,20 @@ final class Due {
         is("the TAPE is loaded", x.cut(want), want);
     }
 
+    /** A new object whose TAPE is full of Texts.threes: 1,000 calls of feed would be more than an object is used for. */
+    static SnapHouse fullOfThrees() {
+        SnapHouse x = tape(Texts.join(Texts.length(19_992, 3), Texts.bytes(61 << 2, 767 & 255, 767 >> 8), Texts.threes(768),
+            Texts.bytes(2 << 2 | 2, 762 & 255, 762 >> 8, 2 << 2 | 2, 768 & 255, 768 >> 8)));
+        x.again(774, 19_224 - 6);
+        is("threes opened", x.open(), 19_992);
+        is("threes taken", x.take(), 19_992);
+        x.again(19_992 - 762, 3);
+        x.again(19_995 - 768, 3);
+        is("a full TAPE", x.again(19_998 - 762, 2), 20_000);
+        is("full of threes", x.sum(0, 20_000, false), Texts.crc(Texts.threes(20_000)));
+        return x;
+    }
+
     private static int four(int[] bytes, int from) {
         int number = 0;
         for (int k = from; k < from + 4; k++) {

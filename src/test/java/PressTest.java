@@ -16,7 +16,7 @@ public final class PressTest {
         Due.end("PressTest");
     }
 
-    private static void pressed(String what, int[] text, int[] want) {
+    static void pressed(String what, int[] text, int[] want) {
         SnapHouse x = Due.tape(text);
         Due.is(what + ": press()", x.press(), want.length);
         Due.is(what + ": take()", x.take(), want.length);

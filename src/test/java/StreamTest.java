@@ -15,7 +15,7 @@ public final class StreamTest {
         Due.end("StreamTest");
     }
 
-    private static void made(String what, int[] text, int piece, int[] want) {
+    static void made(String what, int[] text, int piece, int[] want) {
         SnapHouse x = Due.tape(text);
         Due.is(what + ": stream(" + piece + ")", x.stream(piece), want.length);
         Due.is(what + ": fault(0)", x.fault(0), NONE);

@@ -49,6 +49,19 @@ final class Texts {
         return bytes;
     }
 
+    /**
+     * Bytes of which no four stand twice, too: threes of one byte, by turns of a round of 127 and of one of 128,
+     * so that COPIES of three bytes tell them (762 and 768 back).
+     */
+    static int[] threes(int n) {
+        int[] bytes = new int[n];
+        for (int i = 0; i < n; i++) {
+            int pair = i / 6;
+            bytes[i] = i % 6 < 3 ? pair % 127 : 128 + pair % 128;
+        }
+        return bytes;
+    }
+
     static int[] part(int[] bytes, int from, int to) {
         return java.util.Arrays.copyOfRange(bytes, from, to);
     }
@@ -78,6 +91,30 @@ final class Texts {
     static int masked(int[] bytes) {
         int crc = crc(bytes);
         return (crc >>> 15 | crc << 17) + 0xA282EAD8;
+    }
+
+    /** The four bytes whose CRC-32C is this number: its 32 steps taken back. */
+    static int[] withCrc(int crc) {
+        int rest = ~crc;
+        for (int bit = 0; bit < 32; bit++) {
+            rest = rest < 0 ? (rest ^ 0x82F63B78) << 1 | 1 : rest << 1;
+        }
+        return lowestFirst(~rest & 0xFFFFFFFFL, 4);
+    }
+
+    /** The four bytes whose masked SUM is this number. */
+    static int[] withMasked(int sum) {
+        int turned = sum - 0xA282EAD8;
+        return withCrc(turned >>> 17 | turned << 15);
+    }
+
+    /** A LENGTH in just so many bytes. */
+    static int[] length(long number, int n) {
+        int[] bytes = new int[n];
+        for (int k = 0; k < n; k++) {
+            bytes[k] = (int) (number >> 7 * k & 127) | (k < n - 1 ? 128 : 0);
+        }
+        return bytes;
     }
 
     static int[] chunk(int type, int[] behind) {

@@ -25,7 +25,7 @@ public final class UnstreamTest {
         Due.end("UnstreamTest");
     }
 
-    private static void opened(String what, int[] stream, int[] want) {
+    static void opened(String what, int[] stream, int[] want) {
         SnapHouse x = Due.tape(stream);
         Due.is(what + ": unstream()", x.unstream(), want.length);
         Due.faultIs(what, x, 0, NONE, 0, NONE);
@@ -33,11 +33,11 @@ public final class UnstreamTest {
         Due.outIs(what, x, want);
     }
 
-    private static void faulty(String what, int fault, int place, int[]... parts) {
+    static void faulty(String what, int fault, int place, int[]... parts) {
         faultyBlock(what, fault, place, 0, NONE, parts);
     }
 
-    private static void faultyBlock(String what, int fault, int place, int inBlock, int placeInBlock, int[]... parts) {
+    static void faultyBlock(String what, int fault, int place, int inBlock, int placeInBlock, int[]... parts) {
         SnapHouse x = Due.tape(Texts.join(parts));
         Due.is(what + ": unstream()", x.unstream(), -2);
         Due.faultIs(what, x, fault, place, inBlock, placeInBlock);
