@@ -4,6 +4,9 @@ public final class PressEdgesTest {
         theLengthAtEveryByte();
         fewerBytesThanCanBeAlike();
         fourAlikeInRounds();
+        threeBytesAtTheEnd();
+        oneBitMakesAnotherFour();
+        everyPlaceIsFoundAgain();
         literalsAheadOfACopy();
         literalsBehindACopy();
         copiesOfSizesFromDistances();
@@ -12,6 +15,7 @@ public final class PressEdgesTest {
         fullWithNoneAlike();
         fullWithAllAlike();
         theFarthestCopy();
+        theNearestCopyOfAFullTape();
         Due.end("PressEdgesTest");
     }
 
@@ -73,6 +77,42 @@ public final class PressEdgesTest {
             PressTest.pressed("d + 3, d " + d, less, Texts.join(length(d + 3), literal(less)));
             PressTest.pressed("d + 4, d " + d, text, Texts.join(length(d + 4), literal(round), nearCopy(4, d)));
         }
+    }
+
+    /** At p + 3 = n there are no four bytes, not even if those ahead were all 255 or all 0. */
+    private static void threeBytesAtTheEnd() {
+        for (int b : new int[] {255, 0}) {
+            for (int left = 1; left <= 3; left++) {
+                int[] text = Texts.join(Texts.same(b, 4), Texts.bytes(9), Texts.same(b, left));
+                PressTest.pressed(left + " times " + b + " at the end", text, Texts.join(length(5 + left), literal(text)));
+                text = Texts.join(Texts.same(b, 4), Texts.part(Texts.bytes(9, 8, 7), 0, left));
+                PressTest.pressed(left + " others at the end", text, Texts.join(length(4 + left), literal(text)));
+            }
+        }
+    }
+
+    private static void oneBitMakesAnotherFour() {
+        for (int b : new int[] {0, 255}) {
+            int[] four = Texts.same(b, 4);
+            for (int bit = 0; bit < 32; bit++) {
+                int[] other = Texts.with(four, bit / 8, b ^ 1 << bit % 8);
+                int[] text = Texts.join(four, Texts.bytes(100), other);
+                PressTest.pressed("bit " + bit + " of " + b, text, Texts.join(length(9), literal(text)));
+            }
+        }
+    }
+
+    /** Each four of 2,000 bytes comes once more, a 200 (none of them is one) between them: each is a COPY from where it stood. */
+    private static void everyPlaceIsFoundAgain() {
+        int[] ahead = Texts.counting(2_000);
+        int[] text = ahead;
+        int[] elements = literal(ahead);
+        for (int k = 0; k < 500; k++) {
+            int d = 2_000 + k;
+            text = Texts.join(text, Texts.part(ahead, 4 * k, 4 * k + 4), Texts.bytes(200));
+            elements = Texts.join(elements, d < 2_048 ? nearCopy(4, d) : copy(4, d), literal(Texts.bytes(200)));
+        }
+        PressTest.pressed("each four once more", text, Texts.join(length(4_500), elements));
     }
 
     private static void literalsAheadOfACopy() {
@@ -189,5 +229,18 @@ public final class PressEdgesTest {
         x.cut(19_999);
         Due.is("three alike at the end", x.press(), 20_005);
         Due.is("the last one", x.out(20_004), text[19_998]);
+    }
+
+    private static void theNearestCopyOfAFullTape() {
+        SnapHouse x = Due.fullOfThrees();
+        int[] text = Texts.threes(20_000);
+        for (int i = 19_996; i < 20_000; i++) {
+            text[i] = text[i - 6];
+            x.set(i, text[i]);
+        }
+        int[] copy = nearCopy(4, 6);
+        Due.is("press()", x.press(), 3 + 3 + 19_996 + 2);
+        Due.is("its TAG", x.out(20_002), copy[0]);
+        Due.is("6 back", x.out(20_003), copy[1]);
     }
 }

@@ -1,6 +1,3 @@
-import java.util.ArrayList;
-import java.util.LinkedHashMap;
-import java.util.List;
 import java.util.Map;
 import java.util.function.Supplier;
 import java.util.function.ToIntFunction;
@@ -14,7 +11,7 @@ public final class RefusedTest {
     private static final int MOST = Integer.MAX_VALUE;
     private static final int LEAST = Integer.MIN_VALUE;
     private static final int[] ABC = Texts.plainChunk(Texts.of("abc"));
-    private static final Map<String, Supplier<SnapHouse>> PASTS = new LinkedHashMap<>();
+    private static final Map<String, Supplier<SnapHouse>> PASTS = Pasts.all();
 
     private final String past;
     private final Supplier<SnapHouse> make;
@@ -32,18 +29,10 @@ public final class RefusedTest {
         out = x.about(1);
         elements = Math.min(x.about(2), 1_000);
         chunks = Math.min(x.about(4), 1_000);
-        before = Picture.withFault(x);
+        before = Picture.of(x);
     }
 
     public static void main(String[] args) {
-        PASTS.put("a new object", SnapHouse::new);
-        PASTS.put("a short past", RefusedTest::lived);
-        PASTS.put("an empty TAPE", RefusedTest::emptyTape);
-        PASTS.put("a full TAPE", RefusedTest::fullTape);
-        PASTS.put("an empty OUT", RefusedTest::emptyOut);
-        PASTS.put("a full OUT", RefusedTest::fullOut);
-        PASTS.put("both full", RefusedTest::bothFull);
-        PASTS.put("more than are kept", RefusedTest::moreThanAreKept);
         thePastsAreWhatTheyAreCalled();
         for (String past : PASTS.keySet()) {
             RefusedTest test = new RefusedTest(past, PASTS.get(past));
@@ -55,65 +44,6 @@ public final class RefusedTest {
             test.faultyStreams();
         }
         Due.end("RefusedTest");
-    }
-
-    /** Two ELEMENTS, three CHUNKS, abc in OUT, and a fault in a CHUNK's BLOCK. */
-    private static SnapHouse lived() {
-        SnapHouse x = Due.tape(6, 4, 'a', 'b', 1, 2);
-        x.open();
-        Due.load(x, Texts.join(Texts.NAME, ABC, Texts.chunk(130, new int[0])));
-        x.unstream();
-        Due.load(x, Texts.join(Texts.NAME, Texts.chunk(0, Texts.bytes(0, 0, 0, 0, 9, 1, 0))));
-        x.unstream();
-        return x;
-    }
-
-    private static SnapHouse emptyTape() {
-        SnapHouse x = lived();
-        x.cut(0);
-        return x;
-    }
-
-    private static SnapHouse fullTape() {
-        SnapHouse x = lived();
-        x.fill(9, 20_000 - x.about(0));
-        return x;
-    }
-
-    private static SnapHouse emptyOut() {
-        SnapHouse x = lived();
-        Due.load(x, Texts.NAME);
-        x.unstream();
-        Due.load(x, 5, 4, 'x');
-        x.open();
-        return x;
-    }
-
-    private static SnapHouse fullOut() {
-        SnapHouse x = lived();
-        x.cut(0);
-        x.fill(7, 6_542);
-        x.stream(3);
-        return x;
-    }
-
-    private static SnapHouse bothFull() {
-        SnapHouse x = fullOut();
-        x.again(0, 20_000 - 6_542);
-        return x;
-    }
-
-    private static SnapHouse moreThanAreKept() {
-        SnapHouse x = Due.tape(1_200 & 127 | 128, 1_200 >> 7, 0, 'e');
-        x.again(2, 2 * 1_199);
-        x.open();
-        Due.load(x, Texts.join(Texts.NAME, Texts.chunk(200, Texts.bytes(5))));
-        x.again(10, 5 * 1_100);
-        Due.more(x, ABC);
-        x.unstream();
-        x.fill(1, 1);
-        x.unstream();
-        return x;
     }
 
     private static void pastIs(String past, int... want) {
@@ -141,7 +71,7 @@ public final class RefusedTest {
         SnapHouse x = make.get();
         String what = past + ": " + call;
         Due.is(what, made.applyAsInt(x), want);
-        Picture.withFault(x).isThatOf(what, before);
+        Picture.of(x).isThatOf(what, before);
     }
 
     private void fill(int b, int n) {
@@ -231,7 +161,7 @@ public final class RefusedTest {
         Due.load(x, text);
         Due.is(past + ": " + what, opening.applyAsInt(x), -2);
         Due.faultIs(past + ": " + what, x, fault[0], fault[1], fault[2], fault[3]);
-        Picture.withoutFault(x).isThatOf(past + ": " + what, Picture.withoutFault(without));
+        Picture.of(x).isThatOf(past + ": " + what, Picture.of(without), Picture.Part.FAULT);
     }
 
     private void block(int fault, int place, int... text) {

@@ -5,7 +5,9 @@ public final class StreamEdgesTest {
     public static void main(String[] args) {
         piecesFrom1To20000();
         theLastPiecePerhapsLess();
+        piecesOfOneByte();
         piecesOfAFullTape();
+        fourAlikeAcrossTwoPieces();
         lessAnEighthOfFewBytes();
         lessAnEighthOfManyBytes();
         theEighthOfEachPiece();
@@ -53,6 +55,22 @@ public final class StreamEdgesTest {
         StreamTest.made("a PIECE of just as many", seven, 7, Texts.join(Texts.NAME, Texts.plainChunk(seven)));
         StreamTest.made("a PIECE of one less", seven, 6, Texts.join(Texts.NAME, Texts.plainChunk(Texts.part(seven, 0, 6)),
             Texts.plainChunk(Texts.part(seven, 6, 7))));
+    }
+
+    private static void piecesOfOneByte() {
+        int[] text = Texts.same(8, 3);
+        int[] one = Texts.plainChunk(Texts.bytes(8));
+        StreamTest.made("three PIECES", text, 1, Texts.join(Texts.NAME, one, one, one));
+        StreamTest.made("two PIECES", text, 2, Texts.join(Texts.NAME, Texts.plainChunk(Texts.bytes(8, 8)), one));
+    }
+
+    /** The PIECE's last three bytes, with the next one's first, stood in it already: that is no COPY. */
+    private static void fourAlikeAcrossTwoPieces() {
+        int[] first = Texts.join(Texts.same('z', 12), Texts.of("abcd.abc"));
+        int[] block = Texts.join(Texts.bytes(20, 0, 'z', 7 << 2 | 1, 1, 7 << 2), Texts.of("abcd.abc"));
+        int[] second = Texts.of("d.");
+        StreamTest.made("abc, then d", Texts.join(first, second), 20,
+            Texts.join(Texts.NAME, Texts.pressedChunk(block, first), Texts.plainChunk(second)));
     }
 
     private static void piecesOfAFullTape() {
