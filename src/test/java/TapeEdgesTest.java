@@ -14,6 +14,7 @@ public final class TapeEdgesTest {
         takeUpToTheRoom();
         takeOfAPressedTape();
         sumUpToTheEnd();
+        sumOfNone();
         sumsThatGoRound();
         feedOfTheOutermostNumbers();
         againOneByOneFromEveryPlace();
@@ -217,6 +218,21 @@ public final class TapeEdgesTest {
     }
 
     /** Four bytes can have any sum: those at which the addition, the turn or the sign goes round. */
+    /** None of none is missing up to the TAPE's end, so that there, too, it is the sum of none; beyond it there is no place. */
+    private static void sumOfNone() {
+        for (int count : COUNTS) {
+            SnapHouse x = tapeOf(count);
+            for (int i : new int[] {0, count / 2, Math.max(count - 1, 0), count}) {
+                Due.is("sum(" + i + ", 0, false) of " + count, x.sum(i, 0, false), 0);
+                Due.is("sum(" + i + ", 0, true) of " + count, x.sum(i, 0, true), 0xA282EAD8);
+            }
+            for (int i : new int[] {-1, count + 1, Integer.MIN_VALUE, Integer.MAX_VALUE}) {
+                Due.is("sum(" + i + ", 0, false) of " + count, x.sum(i, 0, false), 0);
+                Due.is("sum(" + i + ", 0, true) of " + count, x.sum(i, 0, true), 0);
+            }
+        }
+    }
+
     private static void sumsThatGoRound() {
         int[] sums = {0, 1, -1, -2, Integer.MIN_VALUE, Integer.MAX_VALUE, 0xA282EAD8, 0xA282EAD7, 0xA282EAD9, 0x5D7D1528};
         for (int sum : sums) {

@@ -9,6 +9,7 @@ public final class UnstreamEdgesTest {
         aFullTapeAsAStream();
         justTheName();
         typesThatAreTaken();
+        skippedTypes();
         threeAndFourBytes();
         aBlockInItsChunkAlone();
         roomOfOneBlock();
@@ -122,6 +123,20 @@ public final class UnstreamEdgesTest {
         opened("253", new int[0], Texts.NAME, Texts.with(ABC, 0, 253));
         opened("254", new int[0], Texts.NAME, Texts.with(ABC, 0, 254));
         faulty("255", 13, 10, Texts.NAME, Texts.with(ABC, 0, 255));
+    }
+
+    /** Each TYPE that can stand behind a name, twice, and a name between: only 128 to 254 are skipped ones. */
+    private static void skippedTypes() {
+        int[][] chunks = {Texts.pressedChunk(Texts.bytes(1, 0, 'q'), Texts.of("q")), ABC};
+        for (int type = 0; type < 256; type++) {
+            if (type < 2 || type > 127) {
+                int[] chunk = type < 2 ? chunks[type] : type < 255 ? Texts.chunk(type, Texts.bytes(1)) : Texts.NAME;
+                SnapHouse x = Due.tape(Texts.join(Texts.NAME, chunk, Texts.NAME, chunk));
+                Due.holds("TYPE " + type + " is taken", x.unstream() >= 0);
+                Due.is("CHUNKS with TYPE " + type, x.about(4), 4);
+                Due.is("skipped ones of TYPE " + type, x.about(5), type >= 128 && type <= 254 ? 2 : 0);
+            }
+        }
     }
 
     private static void threeAndFourBytes() {
